@@ -304,7 +304,7 @@ public final class CapStore {
         return (set >> o & 1) != 0;
     }
 
-    /** Whether all of a checkpoint's blocks were written. */
+    /** All logs come before the header and all homes after it, so that a cut leaves old or new, never a mixture. */
     private boolean saveDirty() {
         if (dirtySet == 0) {
             return true;
@@ -316,7 +316,7 @@ public final class CapStore {
         return copyRows(dirtySet, memory, 0, 0) && writeHeader(0);
     }
 
-    /** Whether what a committed checkpoint still owes the homes is now all written. */
+    /** A set in the header means that a committed checkpoint was cut off: its logs are whole, its homes may not be. */
     private boolean finishCommitted() {
         int owed = blocks[HEADER * ROW];
         if (owed == 0) {
@@ -331,7 +331,7 @@ public final class CapStore {
         dirtySet = 0;
     }
 
-    /** Writes a block for each object of the set; stops at the first that finds no power. */
+    /** Goes no further than the first block that finds no power, for the machine is DOWN from there on. */
     private boolean copyRows(int set, int[] from, int fromRow, int toBlock) {
         for (int o = 0; o < OBJECTS; o++) {
             if (has(set, o) && !writeBlock(toBlock + o, from, fromRow + o)) {
