@@ -69,28 +69,22 @@ public final class CapStore {
     }
 
     public int fetch(int d, int a, int b, int c) {
-        int refused = refusal(isRegister(d, a) && isInRow(b) && isInRow(c));
+        int refused = nodeRefusal(d, a, isInRow(b) && isInRow(c));
         if (refused != DONE) {
             return refused;
         }
         int through = get(d, a);
-        if (!isNodeKey(through)) {
-            return WRONG_KIND;
-        }
         int found = get(objectOf(through), b);
         put(d, c, isWeak(through) ? limited(found, ALL_LIMITS) : found);
         return DONE;
     }
 
     public int store(int d, int a, int b, int c) {
-        int refused = refusal(isRegister(d, a) && isInRow(b) && isInRow(c));
+        int refused = nodeRefusal(d, a, isInRow(b) && isInRow(c));
         if (refused != DONE) {
             return refused;
         }
         int through = get(d, a);
-        if (!isNodeKey(through)) {
-            return WRONG_KIND;
-        }
         if (!isWriting(through)) {
             return NOT_WRITING;
         }
@@ -99,26 +93,19 @@ public final class CapStore {
     }
 
     public long read(int d, int a, int b) {
-        int refused = refusal(isRegister(d, a) && isInRow(b));
+        int refused = pageRefusal(d, a, isInRow(b));
         if (refused != DONE) {
             return ABOVE_WORDS + refused;
         }
-        int through = get(d, a);
-        if (!isPageKey(through)) {
-            return ABOVE_WORDS + WRONG_KIND;
-        }
-        return get(objectOf(through), b);
+        return get(objectOf(get(d, a)), b);
     }
 
     public int write(int d, int a, int b, int v) {
-        int refused = refusal(isRegister(d, a) && isInRow(b));
+        int refused = pageRefusal(d, a, isInRow(b));
         if (refused != DONE) {
             return refused;
         }
         int through = get(d, a);
-        if (!isPageKey(through)) {
-            return WRONG_KIND;
-        }
         if (!isWriting(through)) {
             return NOT_WRITING;
         }
@@ -224,6 +211,23 @@ public final class CapStore {
             return IS_DOWN;
         }
         return named ? DONE : NOT_NAMED;
+    }
+
+    /** The register is looked into only when its numbers have passed. */
+    private int nodeRefusal(int d, int a, boolean othersNamed) {
+        int refused = refusal(isRegister(d, a) && othersNamed);
+        if (refused != DONE) {
+            return refused;
+        }
+        return isNodeKey(get(d, a)) ? DONE : WRONG_KIND;
+    }
+
+    private int pageRefusal(int d, int a, boolean othersNamed) {
+        int refused = refusal(isRegister(d, a) && othersNamed);
+        if (refused != DONE) {
+            return refused;
+        }
+        return isPageKey(get(d, a)) ? DONE : WRONG_KIND;
     }
 
     private static boolean isNode(int o) {
