@@ -1,126 +1,110 @@
-/** Promises 9 and 16 to 19, with power that fails at each block of a checkpoint. */
+/** The term A CHECKPOINT, with power that fails at each single block of one. */
 public final class CheckpointTest {
+    private static final String TERM = "terms, A CHECKPOINT (promises 9, 16 to 19)";
+
     private CheckpointTest() {
     }
 
     public static void main(String[] args) {
-        withoutDirtyObjects();
-        whole();
-        for (int set : Scene.SETS) {
-            int blocks = 2 * Integer.bitCount(set) + 2;
-            for (int power = 0; power < blocks; power++) {
-                cutOff(set, power);
-            }
-            justEnough(set, blocks);
-        }
-        wholeContents();
-        diskOutsideItsBounds();
+        Due.test(TERM, "Are no objects dirty, nothing is written", CheckpointTest::nothingDirty);
+        Due.test(TERM, "for each dirty object, from the least, its contents are written to its log", () -> eachCut(CheckpointTest::cutInLogs));
+        Due.test(TERM, "then the header is written with the set of dirty objects", () -> eachCut(CheckpointTest::cutBeforeCommit));
+        Due.test(TERM, "from here on the checkpoint is COMMITTED", () -> eachCut(CheckpointTest::cutAfterCommit));
+        Due.test(TERM, "then for each of these objects, from the least, its contents are written to its home",
+            () -> eachCut(CheckpointTest::cutInHomes));
+        Due.test(TERM, "then the header is written with 0", () -> eachCut(CheckpointTest::cutBeforeTheEnd));
+        Due.test(TERM, "then the header is written with 0", () -> eachCut(CheckpointTest::justEnough));
+        Due.test(TERM, "then the header is written with 0", () -> eachCut(CheckpointTest::endless));
         Due.end();
     }
 
-    private static void withoutDirtyObjects() {
-        CapStore x = new CapStore();
-        x.power(0);
-        Due.is("checkpoint() of nothing without power", x.checkpoint(), 0);
-        Due.is("isUp()", x.isUp(), true);
-        Due.is("writes()", x.writes(), 0);
-        Due.is("commits()", x.commits(), 0);
+    private interface Cut {
+        void of(int set, int n);
     }
 
-    private static void whole() {
-        for (int set : Scene.SETS) {
-            CapStore x = Scene.withDirty(set);
-            int blocks = 2 * Integer.bitCount(set) + 2;
-            Due.is("checkpoint() of set " + set, x.checkpoint(), blocks);
-            isWhole(x, set, blocks);
-            Due.is("a second checkpoint()", x.checkpoint(), 0);
-            Due.is("commits() after it", x.commits(), 2);
+    private static void eachCut(Cut cut) {
+        for (int set : Scene.sets()) {
+            cut.of(set, Integer.bitCount(set));
         }
     }
 
-    private static void isWhole(CapStore x, int set, int blocks) {
-        String when = "after the checkpoint of set " + set;
-        Due.is("dirty() " + when, x.dirty(), 0);
-        Due.is("isUp() " + when, x.isUp(), true);
-        Due.is("writes() " + when, x.writes(), Scene.FIRST_WRITES + blocks);
-        Due.is("commits() " + when, x.commits(), 2);
-        Scene.blocks(when, x, 0, set);
-        Scene.blocks(when, x, 12, set);
-        Scene.header(when, x, 0);
-        Scene.memory(when, x, set);
+    private static void nothingDirty() {
+        CapStore x = Scene.withDirty(0);
+        x.power(0);
+        Due.is("checkpoint()", x.checkpoint(), 0);
+        Scene.counts("", x, true, 0, Scene.FIRST_WRITES, 1);
+        Scene.disk("", x, 0, 0, 0);
+        Scene.memory("", x, 0);
     }
 
-    private static void justEnough(int set, int blocks) {
-        CapStore x = Scene.withDirty(set);
-        x.power(blocks);
-        Due.is("checkpoint() of set " + set + " with power " + blocks, x.checkpoint(), blocks);
-        isWhole(x, set, blocks);
-        x.place(0, 0, 0);
-        Due.is("checkpoint() with the power used up", x.checkpoint(), -2);
-        Due.is("isUp()", x.isUp(), false);
+    private static void cutInLogs(int set, int n) {
+        for (int power = 0; power < n; power++) {
+            cutOff(set, power, Scene.least(set, power), false, 0);
+        }
     }
 
-    private static void cutOff(int set, int power) {
-        String when = "after a checkpoint of set " + set + " with power " + power;
-        int n = Integer.bitCount(set);
-        boolean committed = power > n;
-        int logs = Scene.least(set, power);
-        int homes = committed ? Scene.least(set, power - n - 1) : 0;
+    private static void cutBeforeCommit(int set, int n) {
+        cutOff(set, n, set, false, 0);
+    }
+
+    private static void cutAfterCommit(int set, int n) {
+        cutOff(set, n + 1, set, true, 0);
+    }
+
+    private static void cutInHomes(int set, int n) {
+        for (int homes = 1; homes < n; homes++) {
+            cutOff(set, n + 1 + homes, set, true, Scene.least(set, homes));
+        }
+    }
+
+    private static void cutBeforeTheEnd(int set, int n) {
+        cutOff(set, 2 * n + 1, set, true, set);
+    }
+
+    /** What is seen when DOWN, and what a start brings back, of two stores: both together are over 512 calls. */
+    private static void cutOff(int set, int power, int logs, boolean committed, int homes) {
+        String when = " after a checkpoint of set " + set + " with power " + power;
+        int commits = committed ? 2 : 1;
+        CapStore x = cutStore(set, power);
+        Scene.counts(when, x, false, -1, Scene.FIRST_WRITES + power, commits);
+        Scene.disk(when, x, homes, logs, committed ? set : 0);
+        Scene.noMemory(when, x);
+
+        CapStore y = cutStore(set, power);
+        int recovered = committed ? Integer.bitCount(set) + 1 : 0;
+        int kept = committed ? set : 0;
+        Due.is("start(-1)" + when, y.start(-1), recovered);
+        Scene.counts(when + " and a start", y, true, 0, Scene.FIRST_WRITES + power + recovered, commits);
+        Scene.disk(when + " and a start", y, kept, logs, 0);
+        Scene.memory(when + " and a start", y, kept);
+    }
+
+    private static CapStore cutStore(int set, int power) {
         CapStore x = Scene.withDirty(set);
         x.power(power);
         Due.is("checkpoint() of set " + set + " with power " + power, x.checkpoint(), -2);
-        Due.is("isUp() " + when, x.isUp(), false);
-        Due.is("dirty() " + when, x.dirty(), -1);
-        Due.is("checkpoint() again " + when, x.checkpoint(), -1);
-        Due.is("writes() " + when, x.writes(), Scene.FIRST_WRITES + power);
-        Due.is("commits() " + when, x.commits(), committed ? 2 : 1);
-        Scene.blocks(when, x, 12, logs);
-        Scene.blocks(when, x, 0, homes);
-        Scene.header(when, x, committed ? set : 0);
-        Due.is("start(-1) " + when, x.start(-1), committed ? n + 1 : 0);
-        Scene.memory("and a start " + when, x, committed ? set : 0);
-        Scene.blocks("and a start " + when, x, 0, committed ? set : 0);
-        Scene.header("and a start " + when, x, 0);
-        Due.is("dirty() and a start " + when, x.dirty(), 0);
-        Due.is("commits() and a start " + when, x.commits(), committed ? 2 : 1);
+        return x;
     }
 
-    /** All 8 slots of a node and all 8 words of a page, in their order, in home and log. */
-    private static void wholeContents() {
-        CapStore x = new CapStore();
-        x.place(0, 0, 41);
-        for (int i = 0; i < 8; i++) {
-            x.place(5, i, 10 + i);
-            x.write(0, 0, i, -100 - i);
-        }
-        Due.is("checkpoint()", x.checkpoint(), 8);
-        for (int i = 0; i < 8; i++) {
-            Due.is("disk(5, " + i + ")", x.disk(5, i), 10 + i);
-            Due.is("disk(17, " + i + ")", x.disk(17, i), 10 + i);
-            Due.is("disk(10, " + i + ")", x.disk(10, i), -100 - i);
-            Due.is("disk(22, " + i + ")", x.disk(22, i), -100 - i);
-        }
+    private static void justEnough(int set, int n) {
+        whole(set, 2 * n + 2, true);
     }
 
-    /** Homes and logs are filled, so that a number that slips into the next block would show. */
-    private static void diskOutsideItsBounds() {
-        CapStore x = new CapStore();
-        for (int i = 0; i < 8; i++) {
-            x.place(0, i, 45);
-            x.write(0, i, i, 9);
-            x.place(1, i, 9);
-        }
-        x.power(4);
-        Due.is("checkpoint()", x.checkpoint(), -2);
-        for (int b : new int[] {Integer.MIN_VALUE, -25, -1, 25, 26, 200, Integer.MAX_VALUE}) {
-            for (int i = 0; i < 8; i++) {
-                Due.is("disk(" + b + ", " + i + ")", x.disk(b, i), 0);
-            }
-        }
-        for (int i : new int[] {Integer.MIN_VALUE, -8, -1, 8, 9, 200, Integer.MAX_VALUE}) {
-            for (int b = 0; b < 25; b++) {
-                Due.is("disk(" + b + ", " + i + ")", x.disk(b, i), 0);
-            }
-        }
+    private static void endless(int set, int n) {
+        whole(set, 2 * n + 2, false);
+    }
+
+    private static void whole(int set, int blocks, boolean justEnough) {
+        String when = " after the checkpoint of set " + set;
+        CapStore x = Scene.withDirty(set);
+        x.power(justEnough ? blocks : -1);
+        Due.is("dirty() before it", x.dirty(), set);
+        Due.is("checkpoint()", x.checkpoint(), blocks);
+        Scene.counts(when, x, true, 0, Scene.FIRST_WRITES + blocks, 2);
+        Scene.disk(when, x, set, set, 0);
+        Scene.memory(when, x, set);
+        Due.is("checkpoint()" + when, x.checkpoint(), 0);
+        x.place(0, 0, 0);
+        Due.is("another checkpoint()" + when, x.checkpoint(), justEnough ? -2 : 4);
     }
 }

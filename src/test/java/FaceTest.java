@@ -19,12 +19,16 @@ public final class FaceTest {
     }
 
     public static void main(String[] args) {
+        Due.test("the public face", "public final class CapStore", FaceTest::isPublicAndFinal);
+        Due.test("the public face", "public CapStore();", FaceTest::constructors);
+        Due.test("the public face", "place .. commits", FaceTest::methods);
+        Due.test("LANGUAGE.md, rules 1 and 5", "no other public, protected or package-visible member", FaceTest::fields);
+        Due.end();
+    }
+
+    private static void isPublicAndFinal() {
         Due.is("whether the class is public and final",
             CapStore.class.getModifiers() == (Modifier.PUBLIC | Modifier.FINAL), true);
-        constructors();
-        methods();
-        fields();
-        Due.end();
     }
 
     private static void constructors() {

@@ -1,186 +1,161 @@
+import java.util.ArrayList;
+import java.util.List;
 import java.util.Set;
-import java.util.TreeSet;
 import java.util.function.Consumer;
 
-/** The refusals of every call, the first that applies, and that a refused call changes nothing. */
+/** The terms DOWN and REFUSALS: every refusal of every call, the first that applies, and that nothing changes. */
 public final class RefusalTest {
-    private static final Set<String> WIDE = Set.of("read", "word");
-    private static final Set<String> ALSO_DOWN = Set.of("start", "disk", "writes", "commits", "isUp");
+    private static final Set<String> ALSO_WHEN_DOWN = Set.of("start", "disk", "writes", "commits", "isUp");
     private static final Set<String> ON_NODE = Set.of("fetch", "store");
     private static final Set<String> ON_PAGE = Set.of("read", "write");
-    /** Keys of node 6, of page 9, and the empty key, in registers of domain 1. */
-    private static final int[] REGISTERS = {25, 26, 27, 28, 37, 38, 39, 0};
+    private static final Set<String> CHANGING = Set.of("store", "write");
 
     private RefusalTest() {
     }
 
     public static void main(String[] args) {
         for (Call call : Call.ALL) {
-            if (!call.name.equals("start")) {
-                whenDown(call);
-                numbersNotNamed(call);
+            String down = "terms, DOWN (promise " + call.promise + ", " + call.name + ")";
+            String refusals = "terms, REFUSALS (promise " + call.promise + ", " + call.name + ")";
+            if (ALSO_WHEN_DOWN.contains(call.name)) {
+                Due.test(down, "all calls but start, disk, writes, commits, isUp are refused", () -> answersWhenDown(call));
+            } else {
+                Due.test(down, "all calls but start, disk, writes, commits, isUp are refused", () -> refusedWhenDown(call));
+                Due.test(refusals, "the first that applies: -1 the machine is DOWN", () -> downBeforeAllElse(call));
             }
-            leastAndGreatest(call);
+            if (call.ranges.length > 0 && !ALSO_WHEN_DOWN.contains(call.name)) {
+                Due.test(refusals, "-2 a number is not one that is named with the call", () -> severalNumbers(call));
+            }
+            if (ON_NODE.contains(call.name) || ON_PAGE.contains(call.name)) {
+                Due.test(refusals, "-2 a number is not one that is named with the call", () -> numbersBeforeKeys(call));
+                Due.test(refusals, "-3 the key in the register named is not that of a node (fetch, store) or of a page (read, write)",
+                    () -> kindBeforeLimits(call));
+                Due.test(refusals, "-4 that key does not write (store, write)", () -> limitsLast(call));
+            }
+            Due.test(refusals, "A refused call changes nothing", () -> worksInTheScene(call));
         }
-        start();
-        keysOfTheWrongKind();
-        keysThatDoNotWrite();
         Due.end();
     }
 
-    /** Something committed, something dirty, and some power left. */
-    private static void scene(CapStore x) {
-        x.place(1, 0, 37);
-        x.write(1, 0, 3, -7);
-        x.place(6, 2, 48);
-        x.checkpoint();
-        for (int a = 0; a < 8; a++) {
-            x.place(1, a, REGISTERS[a]);
+    private static List<Consumer<CapStore>> downScenes() {
+        return List.of(Refused::down, Refused::owing, Refused::cut);
+    }
+
+    private static long refusedAsDown(Call call) {
+        return call.name.equals("crash") ? 0 : Refused.answer(call, -1);
+    }
+
+    private static void refusedWhenDown(Call call) {
+        for (Consumer<CapStore> scene : downScenes()) {
+            Refused.unchanged(call, scene, Refused.working(call), refusedAsDown(call));
         }
-        x.write(1, 4, 3, 8);
-        x.power(41);
     }
 
-    private static void downScene(CapStore x) {
-        scene(x);
-        x.crash();
+    /** The scene wrote 8 blocks in its first checkpoint and 4 in the one that was cut off; node 1 and 3 and page 9 are owed. */
+    private static void answersWhenDown(Call call) {
+        CapStore x = new CapStore();
+        Refused.owing(x);
+        long want = switch (call.name) {
+            case "start" -> 4;
+            case "disk" -> -7;
+            case "writes" -> 12;
+            case "commits" -> 2;
+            default -> 0;
+        };
+        Due.is(call.text(Refused.working(call)) + " when DOWN", call.on(x, Refused.working(call)), want);
     }
 
-    /** A committed checkpoint that the homes do not have yet. */
-    private static void owingScene(CapStore x) {
-        scene(x);
-        x.power(3);
-        x.checkpoint();
-    }
-
-    private static long refusal(Call call, int code) {
-        return WIDE.contains(call.name) ? 4294967296L + code : code;
-    }
-
-    private static void unchanged(Call call, Consumer<CapStore> scene, int[] a, long want) {
-        Snapshot.unchanged(call.text(a), scene, x -> call.on(x, a), want);
-    }
-
-    private static int[] leastOf(Call call) {
-        int[] a = new int[call.ranges.length];
-        for (int i = 0; i < a.length; i++) {
-            a[i] = call.ranges[i][0];
-        }
-        return a;
-    }
-
-    private static Set<Integer> wrongNumbers(int[] range) {
-        Set<Integer> wrong = new TreeSet<>();
-        if (range[0] != Integer.MIN_VALUE) {
-            wrong.addAll(Set.of(range[0] - 1, range[1] + 1, Integer.MIN_VALUE, Integer.MAX_VALUE));
-        }
-        return wrong;
-    }
-
-    private static void whenDown(Call call) {
-        if (ALSO_DOWN.contains(call.name)) {
-            return;
-        }
-        long want = call.name.equals("crash") ? 0 : refusal(call, -1);
-        int[] a = leastOf(call);
-        unchanged(call, RefusalTest::downScene, a, want);
-        unchanged(call, RefusalTest::owingScene, a, want);
-        for (int i = 0; i < a.length; i++) {
-            for (int wrong : wrongNumbers(call.ranges[i])) {
-                int[] b = a.clone();
-                b[i] = wrong;
-                unchanged(call, RefusalTest::downScene, b, want);
+    /** Each number of the call too small or too large, and, with all as they should be, each register. */
+    private static List<int[]> wrongOnes(Call call) {
+        List<int[]> all = new ArrayList<>();
+        for (int i = 0; i < call.ranges.length; i++) {
+            for (int wrong : Refused.outside(call, i)) {
+                all.add(Refused.working(call, i, wrong));
             }
         }
-    }
-
-    /** Whatever key the register has: a wrong number comes before a wrong key. */
-    private static void numbersNotNamed(Call call) {
-        long want = call.name.equals("disk") ? 0 : refusal(call, -2);
-        for (int i = 0; i < call.ranges.length; i++) {
-            for (int wrong : wrongNumbers(call.ranges[i])) {
-                int[] a = leastOf(call);
-                a[i] = wrong;
-                unchanged(call, RefusalTest::scene, a, want);
-                if (i > 1 && (ON_NODE.contains(call.name) || ON_PAGE.contains(call.name))) {
-                    withEveryRegister(call, a, want);
-                }
-            }
+        for (int register = 0; call.ranges.length > 1 && register < 8; register++) {
+            all.add(Refused.working(call, 1, register));
         }
+        return all;
     }
 
-    private static void withEveryRegister(Call call, int[] numbers, long want) {
-        for (int register = 0; register < 8; register++) {
-            int[] a = numbers.clone();
-            a[0] = 1;
-            a[1] = register;
-            unchanged(call, RefusalTest::scene, a, want);
-        }
-    }
-
-    private static void leastAndGreatest(Call call) {
-        for (int i = 0; i < call.ranges.length; i++) {
-            for (int bound : call.ranges[i]) {
-                int[] a = leastOf(call);
-                a[i] = bound;
+    private static void downBeforeAllElse(Call call) {
+        Refused.unchanged(call, Refused::down, Refused.working(call), refusedAsDown(call));
+        for (Consumer<CapStore> scene : downScenes()) {
+            for (int[] a : wrongOnes(call)) {
                 CapStore x = new CapStore();
-                for (int d = 0; d < 3; d++) {
-                    for (int s = 0; s < 8; s++) {
-                        x.place(d, s, ON_PAGE.contains(call.name) ? 45 : 29);
-                    }
-                }
-                boolean start = call.name.equals("start");
-                if (start) {
-                    x.crash();
-                }
-                boolean answersKey = call.name.equals("key");
-                boolean filled = answersKey && a[0] < 3;
-                Due.is(call.text(a), call.on(x, a), filled ? 29 : 0);
+                scene.accept(x);
+                Due.is(call.text(a) + " when DOWN", call.on(x, a), refusedAsDown(call));
             }
         }
     }
 
-    private static void start() {
-        Call start = Call.named("start");
-        int[] numbers = {-1, 0, 63, -2, 64, Integer.MIN_VALUE, Integer.MAX_VALUE};
-        for (int n : numbers) {
-            int[] a = {n};
-            unchanged(start, RefusalTest::scene, a, -1);
-            if (n < -1 || n > 63) {
-                unchanged(start, RefusalTest::downScene, a, -2);
-                unchanged(start, RefusalTest::owingScene, a, -2);
+    /** Two wrong numbers, and all of them wrong, are refused like one. */
+    private static void severalNumbers(Call call) {
+        for (int end : new int[] {-2, 64, Numbers.LEAST, Numbers.GREATEST}) {
+            int[] all = Refused.working(call);
+            for (int i = 0; i < all.length; i++) {
+                all[i] = end;
+                Refused.unchanged(call, Refused::up, all, Refused.answer(call, -2));
             }
         }
     }
 
-    private static void keysOfTheWrongKind() {
-        for (String name : new String[] {"fetch", "store", "read", "write"}) {
-            Call call = Call.named(name);
-            for (int register = 0; register < 8; register++) {
-                boolean node = register < 4;
-                boolean page = register >= 4 && register < 7;
-                if (ON_NODE.contains(name) ? !node : !page) {
-                    unchanged(call, RefusalTest::scene, with(call, register), refusal(call, -3));
+    /** A number is wrong beside a register that holds any of the keys, also one that would be refused. */
+    private static void numbersBeforeKeys(Call call) {
+        for (int register = 0; register < 8; register++) {
+            for (int i = 2; i < call.ranges.length; i++) {
+                for (int wrong : Refused.outside(call, i)) {
+                    int[] a = Refused.working(call, i, wrong);
+                    a[1] = register;
+                    Refused.unchanged(call, Refused::up, a, Refused.answer(call, -2));
                 }
             }
         }
     }
 
-    private static void keysThatDoNotWrite() {
-        for (int register : new int[] {1, 2, 3}) {
-            Call store = Call.named("store");
-            unchanged(store, RefusalTest::scene, with(store, register), -4);
-        }
-        for (int register : new int[] {5, 6}) {
-            Call write = Call.named("write");
-            unchanged(write, RefusalTest::scene, with(write, register), -4);
+    private static boolean isRightKind(Call call, int k) {
+        boolean node = k >= 1 && k <= 32;
+        boolean page = k >= 33;
+        return ON_NODE.contains(call.name) ? node : page;
+    }
+
+    /** Keys of the wrong kind are refused as such, whether they write or not. */
+    private static void kindBeforeLimits(Call call) {
+        for (int k = 0; k <= 48; k++) {
+            if (!isRightKind(call, k)) {
+                Refused.throughKey(call.name, k, -3);
+            }
         }
     }
 
-    private static int[] with(Call call, int register) {
-        int[] a = leastOf(call);
-        a[0] = 1;
-        a[1] = register;
-        return a;
+    /** Only store and write ask whether the key writes. */
+    private static void limitsLast(Call call) {
+        for (int k = 1; k <= 48; k++) {
+            boolean writes = (k - 1) % 4 == 0;
+            if (!isRightKind(call, k)) {
+                continue;
+            }
+            if (CHANGING.contains(call.name) && !writes) {
+                Refused.throughKey(call.name, k, -4);
+            } else {
+                CapStore x = new CapStore();
+                x.place(1, 0, k);
+                Due.is(call.name + " through " + k, call.on(x, Refused.working(call, 1, 0)), 0);
+            }
+        }
+    }
+
+    /** The scene in which refused calls change nothing is one in which the call, not refused, does its work. */
+    private static void worksInTheScene(Call call) {
+        CapStore x = new CapStore();
+        if (call.name.equals("start")) {
+            Refused.down(x);
+        } else {
+            Refused.up(x);
+        }
+        long answer = call.on(x, Refused.working(call));
+        Due.is(call.text(Refused.working(call)) + " answered " + answer + ", which is a refusal",
+            answer >= -4 && answer <= -1 || answer >= 4294967293L, false);
     }
 }

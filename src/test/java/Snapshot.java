@@ -1,37 +1,40 @@
-import java.util.Arrays;
+import java.util.ArrayList;
+import java.util.List;
 import java.util.function.Consumer;
 import java.util.function.ToLongFunction;
 
 /**
- * All that can be seen of a store. Taking one uses up the store: it spends its power, and two would
- * not fit into the 512 calls that the document promises for one object.
+ * All that can be seen of a store: DOWN, dirty, writes, commits, the disk, memory and POWER. Taking
+ * one uses up the store: it spends its power, and two would not fit into the 512 calls that the
+ * document allows on one object.
  */
 final class Snapshot {
-    private final long[] seen = new long[400];
-    private int count = 0;
+    private final List<String> asked = new ArrayList<>();
+    private final List<Long> seen = new ArrayList<>();
 
     private Snapshot(CapStore x) {
-        see(x.isUp() ? 1 : 0);
-        see(x.dirty());
-        see(x.writes());
-        see(x.commits());
+        see("isUp()", x.isUp() ? 1 : 0);
+        see("dirty()", x.dirty());
+        see("writes()", x.writes());
+        see("commits()", x.commits());
         seeDisk(x);
         if (!x.isUp()) {
-            see(x.start(-1));
-            see(x.writes());
+            see("start(-1)", x.start(-1));
+            see("writes() after a start", x.writes());
         }
         seeMemory(x);
         seePower(x);
     }
 
-    private void see(long answer) {
-        seen[count++] = answer;
+    private void see(String call, long answer) {
+        asked.add(call);
+        seen.add(answer);
     }
 
     private void seeDisk(CapStore x) {
         for (int b = 0; b < 25; b++) {
             for (int i = 0; i < 8; i++) {
-                see(x.disk(b, i));
+                see("disk(" + b + ", " + i + ")", x.disk(b, i));
             }
         }
     }
@@ -39,7 +42,7 @@ final class Snapshot {
     private void seeMemory(CapStore x) {
         for (int o = 0; o < 12; o++) {
             for (int i = 0; i < 8; i++) {
-                see(o < 8 ? x.key(o, i) : x.word(o, i));
+                see("word or slot " + i + " of object " + o, o < 8 ? x.key(o, i) : x.word(o, i));
             }
         }
     }
@@ -50,27 +53,26 @@ final class Snapshot {
             x.place(0, 0, 0);
             x.checkpoint();
         }
-        see(x.isUp() ? 1 : 0);
-        see(x.writes());
+        see("isUp() after 68 blocks", x.isUp() ? 1 : 0);
+        see("writes() after 68 blocks", x.writes());
     }
 
-    /** Where two stores that were made by two scripts first differ, or -1. */
-    static int difference(Consumer<CapStore> one, Consumer<CapStore> other) {
-        return Arrays.mismatch(after(one), after(other));
-    }
-
-    private static long[] after(Consumer<CapStore> script) {
+    private static Snapshot after(Consumer<CapStore> script) {
         CapStore x = new CapStore();
         script.accept(x);
-        return new Snapshot(x).seen;
+        return new Snapshot(x);
     }
 
     /** Checks that a call after the script answers what is due and leaves all as it was. */
     static void unchanged(String text, Consumer<CapStore> script, ToLongFunction<CapStore> call, long want) {
-        Consumer<CapStore> scriptAndCall = x -> {
+        Snapshot before = after(script);
+        Snapshot after = after(x -> {
             script.accept(x);
             Due.is(text, call.applyAsLong(x), want);
-        };
-        Due.is("what " + text + " changed", difference(script, scriptAndCall), -1);
+        });
+        Due.is("how much is seen after " + text, after.seen.size(), before.seen.size());
+        for (int i = 0; i < before.seen.size() && i < after.seen.size(); i++) {
+            Due.is(before.asked.get(i) + " after " + text, after.seen.get(i), before.seen.get(i));
+        }
     }
 }
