@@ -54,7 +54,7 @@ public final class Promise01Test {
         Due.is("commits()", x.commits(), 0);
     }
 
-    /** What one object does is not seen in another, made before or after. */
+    /** What one object does is not seen in another, made before or after, and not undone by it. */
     private static void besideAnother() {
         CapStore before = new CapStore();
         CapStore used = new CapStore();
@@ -62,18 +62,20 @@ public final class Promise01Test {
         used.write(0, 0, 7, Numbers.LEAST);
         used.checkpoint();
         used.place(7, 7, 48);
-        used.power(1);
-        used.checkpoint();
-        CapStore after = new CapStore();
-        for (CapStore x : new CapStore[] {before, after}) {
-            allIsZero(x);
-            Due.is("isUp()", x.isUp(), true);
-            Due.is("dirty()", x.dirty(), 0);
-            Due.is("writes()", x.writes(), 0);
-            Due.is("commits()", x.commits(), 0);
-            x.place(0, 0, 0);
-            Due.is("checkpoint()", x.checkpoint(), 4);
-        }
-        Due.is("isUp() of the used one", used.isUp(), false);
+        used.power(5);
+        isNew(before);
+        isNew(new CapStore());
+        Scene.counts(" of the used one", used, true, 1 << 7, 6, 1);
+        Due.is("key(7, 7) of the used one", used.key(7, 7), 48);
+        Due.is("word(11, 7) of the used one", used.word(11, 7), Numbers.LEAST);
+        Due.is("disk(11, 7) of the used one", used.disk(11, 7), Numbers.LEAST);
+        Due.is("blocks of the used one", Scene.blocksUntilDown(used), 5);
+        Due.is("isUp() of the one before", before.isUp(), true);
+    }
+
+    private static void isNew(CapStore x) {
+        allIsZero(x);
+        Scene.counts("", x, true, 0, 0, 0);
+        Due.is("blocks", Scene.blocksUntilDown(x), -1);
     }
 }
