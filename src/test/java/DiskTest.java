@@ -7,6 +7,8 @@ public final class DiskTest {
     }
 
     public static void main(String[] args) {
+        Due.test(DISK, "THE DISK has 25 BLOCKS of 8 words", DiskTest::blocksAndWords);
+        Due.test(DISK, "block 24 is the HEADER", DiskTest::onlyTheHeader);
         Due.test(DISK, "block o (0 .. 11) is the HOME of object o, block 12 + o its LOG", DiskTest::homesAndLogs);
         Due.test(DISK, "The contents of an object are its 8 slots or words in their order", DiskTest::contents);
         Due.test(DISK, "Word 0 of the header is a set of objects (bit o for object o), its other words are always 0", DiskTest::header);
@@ -17,6 +19,33 @@ public final class DiskTest {
         Due.test(POWER, "POWER, if not endless, is one less", DiskTest::acrossCheckpoints);
         Due.test(POWER, "a number of blocks that can still be written, or endless", DiskTest::endless);
         Due.end();
+    }
+
+    /** Each of the 200 words is where it should be, and no number beside theirs finds one of them. */
+    private static void blocksAndWords() {
+        CapStore x = Scene.withDirty(Scene.NODES);
+        x.power(9);
+        x.checkpoint();
+        Scene.disk("", x, 0, Scene.NODES, Scene.NODES);
+        for (int i = -1; i <= 8; i++) {
+            Due.is("disk(-1, " + i + ")", x.disk(-1, i), 0);
+            Due.is("disk(25, " + i + ")", x.disk(25, i), 0);
+        }
+        for (int b = 0; b < 25; b++) {
+            Due.is("disk(" + b + ", -1)", x.disk(b, -1), 0);
+            Due.is("disk(" + b + ", 8)", x.disk(b, 8), 0);
+        }
+    }
+
+    /** The block that makes the difference between a checkpoint that counts and one that does not is block 24 alone. */
+    private static void onlyTheHeader() {
+        for (int power = 3; power <= 4; power++) {
+            CapStore x = Scene.withDirty(0b0000_1000_1001);
+            x.power(power);
+            x.checkpoint();
+            Scene.disk(" with power " + power, x, 0, 0b0000_1000_1001, power == 4 ? 0b0000_1000_1001 : 0);
+            Due.is("start(-1)", x.start(-1), power == 4 ? 4 : 0);
+        }
     }
 
     private static void homesAndLogs() {

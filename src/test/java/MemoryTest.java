@@ -6,13 +6,41 @@ public final class MemoryTest {
     }
 
     public static void main(String[] args) {
+        Due.test(TERM, "MEMORY holds all objects", MemoryTest::allObjects);
         Due.test(TERM, "one of its slots or words was stored to by a call that did what it says", MemoryTest::eachCall);
         Due.test(TERM, "also if that changed nothing", MemoryTest::changedNothing);
         Due.test(TERM, "by a call that did what it says", MemoryTest::refusedCalls);
+        Due.test(TERM, "since memory was last the same as a whole checkpoint", MemoryTest::untilThen);
         Due.test(TERM, "at the beginning", () -> Due.is("dirty()", new CapStore().dirty(), 0));
         Due.test(TERM, "after a checkpoint that answered 0 or more", MemoryTest::afterACheckpoint);
         Due.test(TERM, "after a start that answered 0 or more", MemoryTest::afterAStart);
         Due.end();
+    }
+
+    /** 64 slots and 32 words at once, each with contents of its own. */
+    private static void allObjects() {
+        for (int set : Scene.sets()) {
+            Scene.memory(" with new contents in set " + set, Scene.withDirty(set), set);
+        }
+    }
+
+    /** Nothing in between takes an object out of the set, not even its old contents. */
+    private static void untilThen() {
+        CapStore x = clean();
+        x.place(1, 4, 38);
+        x.place(1, 4, 37);
+        Due.is("dirty() with the old contents again", x.dirty(), 1 << 1);
+        x.write(1, 4, 0, 9);
+        x.power(0);
+        x.read(1, 4, 0);
+        x.start(-1);
+        x.place(8, 0, 1);
+        Due.is("dirty() after calls that store nothing", x.dirty(), 1 << 1 | 1 << 9);
+        x.clear(1, 7);
+        Due.is("dirty() after another store", x.dirty(), 1 << 1 | 1 << 9);
+        x.power(6);
+        Due.is("checkpoint()", x.checkpoint(), 6);
+        Due.is("dirty() after it", x.dirty(), 0);
     }
 
     /** Domain 1 has the key of node 6 in register 0 and of page 9 in register 4. */

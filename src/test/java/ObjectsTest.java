@@ -8,6 +8,7 @@ public final class ObjectsTest {
 
     public static void main(String[] args) {
         Due.test(OBJECTS, "the NODES 0 .. 7 have 8 slots each", ObjectsTest::slots);
+        Due.test(OBJECTS, "a slot holds a KEY", ObjectsTest::onlyKeys);
         Due.test(OBJECTS, "the PAGES 8 .. 11 have 8 words each, a word is any int", ObjectsTest::words);
         Due.test(OBJECTS, "Key 0 is the empty key", ObjectsTest::theEmptyKey);
         Due.test(OBJECTS, "The key of object o with LIMITS l (0 .. 3) is 1 + 4 * o + l; so keys are 0 .. 48", ObjectsTest::everyKeyReachesItsObject);
@@ -28,6 +29,19 @@ public final class ObjectsTest {
                 Due.is("place(" + n + ", " + s + ", 48)", x.place(n, s, 48), named ? 0 : -2);
                 Due.is("key(" + n + ", " + s + ")", x.key(n, s), named ? 48 : -2);
             }
+        }
+    }
+
+    /** No way into a slot brings anything but a key there. */
+    private static void onlyKeys() {
+        CapStore x = new CapStore();
+        for (int k = -1; k <= 49; k++) {
+            boolean key = k >= 0 && k <= 48;
+            int before = x.key(2, 7);
+            Due.is("place(2, 7, " + k + ")", x.place(2, 7, k), key ? 0 : -2);
+            Due.is("key(2, 7)", x.key(2, 7), key ? k : before);
+            Due.is("restrict(2, 7, 3, 6)", x.restrict(2, 7, 3, 6), 0);
+            Due.is("key(2, 6)", x.key(2, 6), x.key(2, 7) == 0 ? 0 : 4 * ((x.key(2, 7) + 3) / 4));
         }
     }
 

@@ -8,6 +8,7 @@ public final class Promise02Test {
     public static void main(String[] args) {
         Due.test(PROMISE, "slot s (0 .. 7) of node n (0 .. 7) becomes key k (0 .. 48)", Promise02Test::everySlotAndKey);
         Due.test(PROMISE, "slot s (0 .. 7) of node n (0 .. 7) becomes key k", Promise02Test::noOtherSlot);
+        Due.test(PROMISE, "From outside", Promise02Test::throughNoKey);
         Due.test(PROMISE, "of node n (0 .. 7)", () -> Refused.notNamed("place", 0));
         Due.test(PROMISE, "of node n (0 .. 7)", Promise02Test::pagesAreNoNodes);
         Due.test(PROMISE, "slot s (0 .. 7)", () -> Refused.notNamed("place", 1));
@@ -43,6 +44,22 @@ public final class Promise02Test {
             for (int i = 0; i < 32; i++) {
                 Due.is("word(" + (8 + i / 8) + ", " + i % 8 + ")", x.word(8 + i / 8, i % 8), 0);
             }
+        }
+    }
+
+    /** What keys the domains have does not matter: none at all, or one that does not write. */
+    private static void throughNoKey() {
+        for (int n = 0; n < 8; n++) {
+            CapStore x = new CapStore();
+            Due.is("place(" + n + ", 7, 48) without keys", x.place(n, 7, 48), 0);
+            Due.is("key(" + n + ", 7)", x.key(n, 7), 48);
+            for (int d = 0; d < 3; d++) {
+                x.place(d, 0, 1 + 4 * n + 3);
+                x.place(d, 1, 45);
+                Due.is("store(" + d + ", 0, 7, 1)", x.store(d, 0, 7, 1), -4);
+            }
+            Due.is("place(" + n + ", 7, 47) with read-only keys", x.place(n, 7, 47), 0);
+            Due.is("key(" + n + ", 7)", x.key(n, 7), 47);
         }
     }
 

@@ -16,6 +16,7 @@ public final class Promise07Test {
         Due.test(PROMISE, "register c (0 .. 7)", () -> Refused.notNamed("restrict", 3));
         Due.test(PROMISE, "each limit that one of the two has", Promise07Test::everyKeyAndLimit);
         Due.test(PROMISE, "the empty key stays empty", Promise07Test::theEmptyKey);
+        Due.test(PROMISE, "the empty key stays empty", Promise07Test::theEmptyKeyInEveryRegister);
         Due.test(PROMISE, "register c (0 .. 7) becomes the key in register a (0 .. 7)", Promise07Test::inPlace);
         Due.test(PROMISE, "0, or -1, -2", () -> Refused.whenDown("restrict"));
         Due.end();
@@ -68,6 +69,29 @@ public final class Promise07Test {
             Due.is("restrict(1, 2, " + l + ", 2) of 0", x.restrict(1, 2, l, 2), 0);
             Due.is("key(1, 2)", x.key(1, 2), 0);
             Due.is("dirty()", x.dirty(), 2);
+        }
+    }
+
+    /** Register c becomes empty too, and only it; the node was stored to, so it is dirty and goes to the disk. */
+    private static void theEmptyKeyInEveryRegister() {
+        for (int i = 0; i < 192; i++) {
+            int d = i / 64;
+            int a = i / 8 % 8;
+            int c = i % 8;
+            CapStore x = new CapStore();
+            for (int r = 0; r < 8; r++) {
+                x.place(d, r, r == a ? 0 : 40 + r);
+            }
+            x.checkpoint();
+            String call = "restrict(" + d + ", " + a + ", 3, " + c + ") of 0";
+            Due.is(call, x.restrict(d, a, 3, c), 0);
+            Due.is("dirty() after " + call, x.dirty(), 1 << d);
+            Due.is("checkpoint() after " + call, x.checkpoint(), 4);
+            for (int r = 0; r < 8; r++) {
+                int want = r == a || r == c ? 0 : 40 + r;
+                Due.is("register " + r + " after " + call, x.key(d, r), want);
+                Due.is("disk(" + d + ", " + r + ") after " + call, x.disk(d, r), want);
+            }
         }
     }
 

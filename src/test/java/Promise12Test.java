@@ -8,7 +8,9 @@ public final class Promise12Test {
     public static void main(String[] args) {
         Due.test(PROMISE, "POWER becomes n (0 .. 63), or endless for -1", Promise12Test::everyNumber);
         Due.test(PROMISE, "POWER becomes n (0 .. 63), or endless for -1", Promise12Test::whateverItWas);
+        Due.test(PROMISE, "and it recovers", Promise12Test::recovers);
         Due.test(PROMISE, "how many blocks that wrote if all were written", Promise12Test::nothingToRecover);
+        Due.test(PROMISE, "how many blocks that wrote if all were written", Promise12Test::withoutPower);
         Due.test(PROMISE, "how many blocks that wrote if all were written", Promise12Test::eachPowerForEachCount);
         Due.test(PROMISE, "-3 if one was not (it is DOWN still, POWER 0)", Promise12Test::cutOff);
         Due.test(PROMISE, "-1 if it is not DOWN", Promise12Test::whenUp);
@@ -37,6 +39,37 @@ public final class Promise12Test {
                 Due.is("blocks after start(" + n + ") with power " + before + " before", Scene.blocksUntilDown(x), n);
             }
         }
+    }
+
+    /** Committed contents come back, those that were not are gone; the calls that need memory work again. */
+    private static void recovers() {
+        CapStore x = owing(8);
+        Due.is("start(63)", x.start(63), 9);
+        Scene.counts("", x, true, 0, Scene.FIRST_WRITES + 18, 2);
+        Scene.memory("", x, Scene.NODES);
+        Scene.disk("", x, Scene.NODES, Scene.NODES, 0);
+        CapStore y = Scene.withDirty(Scene.NODES);
+        y.power(8);
+        y.checkpoint();
+        Due.is("start(63)", y.start(63), 0);
+        Scene.counts("", y, true, 0, Scene.FIRST_WRITES + 8, 1);
+        Scene.memory("", y, 0);
+    }
+
+    /** Only a block that is to be written needs power: with none the machine comes up, and goes DOWN at the first block. */
+    private static void withoutPower() {
+        CapStore x = Scene.withDirty(Scene.PAGES);
+        x.crash();
+        Due.is("start(0)", x.start(0), 0);
+        Scene.counts(" after start(0)", x, true, 0, Scene.FIRST_WRITES, 1);
+        Due.is("checkpoint() of nothing", x.checkpoint(), 0);
+        Due.is("isUp() after it", x.isUp(), true);
+        Due.is("place(5, 5, 5)", x.place(5, 5, 5), 0);
+        Due.is("key(5, 5)", x.key(5, 5), 5);
+        Due.is("checkpoint() of node 5", x.checkpoint(), -2);
+        Scene.counts(" after it", x, false, -1, Scene.FIRST_WRITES, 1);
+        Due.is("start(0) again", x.start(0), 0);
+        Scene.memory(" after it", x, 0);
     }
 
     /** After a crash of a new object, after a whole checkpoint, and after one that was cut off before its commit. */

@@ -14,6 +14,7 @@ public final class RefusalTest {
     }
 
     public static void main(String[] args) {
+        Due.test("terms, DOWN (promises 11, 14 to 16)", "While it is DOWN there is no memory", RefusalTest::noMemory);
         for (Call call : Call.ALL) {
             String down = "terms, DOWN (promise " + call.promise + ", " + call.name + ")";
             String refusals = "terms, REFUSALS (promise " + call.promise + ", " + call.name + ")";
@@ -39,6 +40,23 @@ public final class RefusalTest {
 
     private static List<Consumer<CapStore>> downScenes() {
         return List.of(Refused::down, Refused::owing, Refused::cut);
+    }
+
+    /** What is not on the disk is not there after the next start either. */
+    private static void noMemory() {
+        for (Consumer<CapStore> scene : downScenes()) {
+            CapStore x = new CapStore();
+            scene.accept(x);
+            Due.is("isUp()", x.isUp(), false);
+            Due.is("dirty()", x.dirty(), -1);
+            Scene.noMemory(" when DOWN", x);
+            x.start(-1);
+            for (int i = 0; i < 8; i++) {
+                for (int o = 0; o < 12; o++) {
+                    Due.is("slot or word " + i + " of object " + o, o < 8 ? x.key(o, i) : x.word(o, i), x.disk(o, i));
+                }
+            }
+        }
     }
 
     private static long refusedAsDown(Call call) {
